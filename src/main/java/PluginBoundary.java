@@ -507,7 +507,6 @@ public final class PluginBoundary {
             required = 0;
             wished = 0;
             service = NO_SERVICE;
-            value = 0;
         }
     }
 

@@ -611,9 +611,6 @@ public final class PromisesTest {
         due("x + 1 wraps", x.call(0, MAX), MIN + 110);
         x.stop(1);
         due("a point with none", x.call(0, 5), 6);
-        x.extend(0, 1, NEST, 2, 0.0);
-        x.extend(0, 1, NEST, 6, 0.0);
-        x.start(1);
         due("calls", x.extension(0, 4), 4);
     }
 
@@ -807,6 +804,15 @@ public final class PromisesTest {
         due("a sum that overflows", x.weight(1), -INFINITY);
         x.extend(0, 1, ADD, 0, INFINITY);
         due("opposite infinities have no sum", x.weight(1), 0.0);
+        nanAtTheEnd(x);
+        PluginBoundary lowest = new PluginBoundary();
+        startNew(lowest, 0);
+        lowest.extend(0, 0, ADD, 0, INFINITY);
+        lowest.extend(0, 0, ADD, 0, -Double.MAX_VALUE);
+        due("the lowest number and an infinity", lowest.weight(0), INFINITY);
+    }
+
+    private static void nanAtTheEnd(PluginBoundary x) {
         x.extend(0, 2, ADD, 0, Double.NaN);
         x.extend(0, 2, ADD, 0, 3.0);
         x.extend(0, 2, ADD, 0, Double.NaN);
